@@ -108,6 +108,9 @@ public final class PromisesTest {
         due.is("key(0) after clear", x.key(0), 0);
         due.is("tag(4) after clear", x.tag(4), 0);
         due.is("clear() of none", x.clear(), 0);
+        x.put(1, 1);
+        due.is("clear() of one", x.clear(), 1);
+        due.is("count(0) after clear of one", x.count(0), 0);
         x.run(500, 1, 1, 1);
         due.is("clear() of 500", x.clear(), 500);
         due.is("run after clear", x.run(500, 1, 1, 1), 500);
@@ -325,6 +328,9 @@ public final class PromisesTest {
         for (int order : NO_ORDERS) {
             due.is("sorted(0, 5, " + order + ")", x.sorted(0, 5, order), -1);
         }
+        due.is("sorted by 3: 127, 128", of(127, 128).sorted(0, 2, 3), 1);
+        due.is("sorted by 3: 128, 127", of(128, 127).sorted(0, 2, 3), 0);
+        due.is("sorted by 3: 128, 256", of(128, 256).sorted(0, 2, 3), 0);
         due.is("sorted(0, 0, 0) of none", new RowPress().sorted(0, 0, 0), 1);
     }
 
