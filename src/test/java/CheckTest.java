@@ -1,14 +1,9 @@
-import java.lang.reflect.Field;
-
-/**
- * Promise 18. Since check() tells 1 as long as the sorts keep to their bounds, the counts are read
- * and set from outside here: to see that they are counts, and that check() would tell 0.
- */
+/** Promise 18 for each size of the row: the counts are true counts, in the bounds, and judged right. */
 public final class CheckTest {
     private static final Due due = new Due();
     private static long seed = 7L;
 
-    public static void main(String[] args) throws ReflectiveOperationException {
+    public static void main(String[] args) {
         for (int n = 0; n <= 500; n++) {
             sortsOf(n);
             tellsZero(n);
@@ -28,16 +23,6 @@ public final class CheckTest {
         return Math.max(levels, 1);
     }
 
-    private static Field field(String name) throws ReflectiveOperationException {
-        Field field = RowPress.class.getDeclaredField(name);
-        field.setAccessible(true);
-        return field;
-    }
-
-    private static int get(RowPress x, String name) throws ReflectiveOperationException {
-        return field(name).getInt(x);
-    }
-
     private static int random(int bound) {
         seed = seed * 6364136223846793005L + 1442695040888963407L;
         return (int) ((seed >>> 33) % bound);
@@ -54,7 +39,7 @@ public final class CheckTest {
         };
     }
 
-    private static void sortsOf(int n) throws ReflectiveOperationException {
+    private static void sortsOf(int n) {
         for (int shape = 0; shape < 6; shape++) {
             for (int order = 0; order < 4; order++) {
                 RowPress x = new RowPress();
@@ -69,7 +54,7 @@ public final class CheckTest {
         }
     }
 
-    private static void mergesOf(int n) throws ReflectiveOperationException {
+    private static void mergesOf(int n) {
         // One pair before the stretch, where the row has room for it.
         int from = n < 500 ? 1 : 0;
         for (int mid = 0; mid <= n; mid++) {
@@ -91,16 +76,15 @@ public final class CheckTest {
     }
 
     /** The counts are in the bounds, and not less than any sort's must be. */
-    private static void bounds(String call, RowPress x, int[] before, int from)
-        throws ReflectiveOperationException {
+    private static void bounds(String call, RowPress x, int[] before, int from) {
         int n = before.length;
         int changed = 0;
         for (int i = 0; i < n; i++) {
             changed += before[i] != x.key(from + i) ? 1 : 0;
         }
-        int compares = get(x, "latestCompares");
-        int writes = get(x, "latestWrites");
-        due.is(call + ": pairs", get(x, "latestPairs"), n);
+        int compares = Counts.compares(x);
+        int writes = Counts.writes(x);
+        due.is(call + ": pairs", Counts.pairs(x), n);
         due.holds(call + ": compares " + compares, compares <= 8 * n * levels(n));
         due.holds(call + ": writes " + writes, writes <= 40 * n * levels(n));
         due.holds(call + ": compares only " + compares, compares >= n - 1);
@@ -108,7 +92,7 @@ public final class CheckTest {
         due.is(call + ": check()", x.check(), 1);
     }
 
-    private static void tellsZero(int n) throws ReflectiveOperationException {
+    private static void tellsZero(int n) {
         RowPress x = new RowPress();
         if (n > 0) {
             x.run(n, 5, -1, 0);
@@ -123,20 +107,18 @@ public final class CheckTest {
         due.is("check() after another sort of " + n, x.check(), 1);
     }
 
-    private static void told(int n, RowPress x, int compares, int writes, int want)
-        throws ReflectiveOperationException {
-        field("latestCompares").setInt(x, compares);
-        field("latestWrites").setInt(x, writes);
+    private static void told(int n, RowPress x, int compares, int writes, int want) {
+        Counts.set(x, compares, writes);
         due.is("check() of " + n + " with " + compares + " compares, " + writes + " writes", x.check(), want);
     }
 
     /** Calls that do nothing, and calls of other kinds, leave the latest sort's counts alone. */
-    private static void onlyTheLatest() throws ReflectiveOperationException {
+    private static void onlyTheLatest() {
         RowPress x = new RowPress();
         x.run(100, 50, -1, 0);
         x.sortPart(0, 50, 0);
-        int compares = get(x, "latestCompares");
-        int writes = get(x, "latestWrites");
+        int compares = Counts.compares(x);
+        int writes = Counts.writes(x);
         x.sort(4);
         x.sortPart(3, 2, 0);
         x.sortPart(0, 101, 0);
@@ -152,11 +134,11 @@ public final class CheckTest {
         x.rank(3, 0);
         x.count(1);
         x.clear();
-        due.is("pairs of the latest", get(x, "latestPairs"), 50);
-        due.is("compares of the latest", get(x, "latestCompares"), compares);
-        due.is("writes of the latest", get(x, "latestWrites"), writes);
+        due.is("pairs of the latest", Counts.pairs(x), 50);
+        due.is("compares of the latest", Counts.compares(x), compares);
+        due.is("writes of the latest", Counts.writes(x), writes);
         x.merge(0, 0, 0, 0);
-        due.is("pairs after a merge of none", get(x, "latestPairs"), 0);
-        due.is("compares after a merge of none", get(x, "latestCompares"), 0);
+        due.is("pairs after a merge of none", Counts.pairs(x), 0);
+        due.is("compares after a merge of none", Counts.compares(x), 0);
     }
 }

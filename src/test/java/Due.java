@@ -1,7 +1,10 @@
+import java.util.function.IntSupplier;
+
 /** Compares answers with those that are due, prints the wrong ones, and ends a test. */
 final class Due {
     private int asked = 0;
     private int wrong = 0;
+    private String sentence = "";
 
     void is(String call, long got, long want) {
         asked++;
@@ -19,14 +22,33 @@ final class Due {
 
     /** The row is just these pairs, written key:tag with a space between them. */
     void row(String after, RowPress x, String want) {
-        StringBuilder got = new StringBuilder();
-        for (int place = 0; place < x.count(0); place++) {
-            got.append(place == 0 ? "" : " ").append(x.key(place)).append(':').append(x.tag(place));
-        }
+        String got = Rows.text(x);
         asked++;
-        if (!got.toString().equals(want)) {
+        if (!got.equals(want)) {
             tell("after " + after + " the row is [" + got + "], due is [" + want + "]");
         }
+    }
+
+    /** The call answers so, and does nothing: to no pair, and to nothing that check() judges by. */
+    void nothing(String call, RowPress x, IntSupplier answer, int want) {
+        String before = state(x);
+        is(call, answer.getAsInt(), want);
+        holds(call + " did something", state(x).equals(before));
+    }
+
+    /** A sentence of the document with a test of its own: what is wrong in it is told by its words. */
+    void sentence(String words, Runnable test) {
+        sentence = words;
+        int askedBefore = asked;
+        try {
+            test.run();
+        } catch (RuntimeException thrown) {
+            tell("a call threw " + thrown);
+        }
+        if (asked == askedBefore) {
+            tell("nothing was asked");
+        }
+        sentence = "";
     }
 
     int wrong() {
@@ -40,10 +62,19 @@ final class Due {
         }
     }
 
+    /**
+     * All that the face shows, a little behind both ends too, and the counts. It asks more often
+     * than the document's 512 calls, which is safe here: the class does not count its calls.
+     */
+    private static String state(RowPress x) {
+        return Rows.text(x, -1, 502) + " " + x.count(0) + " " + x.count(1) + " " + x.check() + " "
+            + Counts.pairs(x) + " " + Counts.compares(x) + " " + Counts.writes(x);
+    }
+
     private void tell(String text) {
         wrong++;
         if (wrong <= 50) {
-            System.out.println(text);
+            System.out.println(sentence.isEmpty() ? text : "'" + sentence + "': " + text);
         }
     }
 }

@@ -1,13 +1,9 @@
 /** Promise by promise: ordinary inputs, the edges that the document names, and wrong inputs. */
 public final class PromisesTest {
-    private static final int MIN = Integer.MIN_VALUE;
-    private static final int MAX = Integer.MAX_VALUE;
-    private static final int[] NO_ORDERS = {-1, 4, MIN, MAX};
-    /** None of these is a stretch of a row of 5. */
-    private static final int[][] NO_STRETCHES = {
-        {-1, 3}, {3, 2}, {0, 6}, {6, 6}, {5, 6}, {-1, -1}, {MIN, 0}, {0, MAX}, {MAX, MAX}, {MIN, MAX},
-        {MAX, MIN}, {0, -1}, {5, 4},
-    };
+    private static final int MIN = Rows.MIN;
+    private static final int MAX = Rows.MAX;
+    private static final int[] NO_ORDERS = Rows.NO_ORDERS;
+    private static final int[][] NO_STRETCHES = Rows.noStretches(5);
     private static final String FIVE = "3:0 1:1 2:2 1:3 3:4";
 
     private static final Due due = new Due();
@@ -31,19 +27,6 @@ public final class PromisesTest {
         count();
         check();
         due.end();
-    }
-
-    /** A row with these keys, the tags 0, 1, 2 .. */
-    private static RowPress of(int... keys) {
-        RowPress x = new RowPress();
-        for (int i = 0; i < keys.length; i++) {
-            x.put(keys[i], i);
-        }
-        return x;
-    }
-
-    private static RowPress five() {
-        return of(3, 1, 2, 1, 3);
     }
 
     private static void newObject() {
@@ -102,7 +85,7 @@ public final class PromisesTest {
     }
 
     private static void clear() {
-        RowPress x = five();
+        RowPress x = Rows.five();
         due.is("clear() of 5", x.clear(), 5);
         due.is("count(0) after clear", x.count(0), 0);
         due.is("key(0) after clear", x.key(0), 0);
@@ -125,18 +108,18 @@ public final class PromisesTest {
             "-2147483648:3 0:6 256:7 1:9 3:0 259:2 3:4 -1:1 2147483647:5 -1:8",
         };
         for (int order = 0; order < wants.length; order++) {
-            RowPress x = of(keys);
+            RowPress x = Rows.of(keys);
             due.is("sort(" + order + ")", x.sort(order), 1);
             due.row("sort(" + order + ")", x, wants[order]);
         }
         for (int order : NO_ORDERS) {
-            RowPress x = five();
+            RowPress x = Rows.five();
             due.is("sort(" + order + ")", x.sort(order), 0);
             due.row("sort(" + order + ")", x, FIVE);
             due.is("sort(" + order + ") of none", new RowPress().sort(order), 0);
         }
         due.is("sort(3) of none", new RowPress().sort(3), 1);
-        RowPress one = of(9);
+        RowPress one = Rows.of(9);
         due.is("sort(2) of one", one.sort(2), 1);
         due.row("sort(2) of one", one, "9:0");
         RowPress full = new RowPress();
@@ -148,7 +131,7 @@ public final class PromisesTest {
     }
 
     private static void sortPart() {
-        RowPress x = five();
+        RowPress x = Rows.five();
         due.is("sortPart(0, 3, 0)", x.sortPart(0, 3, 0), 1);
         due.row("sortPart(0, 3, 0)", x, "1:1 2:2 3:0 1:3 3:4");
         due.is("sortPart(2, 5, 2)", x.sortPart(2, 5, 2), 1);
@@ -159,7 +142,7 @@ public final class PromisesTest {
         due.is("sortPart(2, 2, 1)", x.sortPart(2, 2, 1), 1);
         due.is("sortPart(2, 3, 1)", x.sortPart(2, 3, 1), 1);
         due.row("sortPart of none and one", x, "1:1 1:3 2:2 3:0 3:4");
-        RowPress y = five();
+        RowPress y = Rows.five();
         for (int[] s : NO_STRETCHES) {
             due.is("sortPart(" + s[0] + ", " + s[1] + ", 0)", y.sortPart(s[0], s[1], 0), 0);
         }
@@ -172,7 +155,7 @@ public final class PromisesTest {
     }
 
     private static void merge() {
-        RowPress x = of(9, 1, 3, 3, 5, 1, 2, 3, 5, 0);
+        RowPress x = Rows.of(9, 1, 3, 3, 5, 1, 2, 3, 5, 0);
         due.is("merge(1, 5, 9, 0)", x.merge(1, 5, 9, 0), 1);
         due.row("merge(1, 5, 9, 0)", x, "9:0 1:1 1:5 2:6 3:2 3:3 3:7 5:4 5:8 0:9");
         due.is("merge(0, 1, 10, 0), the second not sorted", x.merge(0, 1, 10, 0), 0);
@@ -187,7 +170,7 @@ public final class PromisesTest {
         due.is("merge(10, 10, 10, 0)", x.merge(10, 10, 10, 0), 1);
         due.row("merges with none", x, "0:9 1:1 1:5 2:6 3:2 3:3 3:7 5:4 5:8 9:0");
         mergeByOtherOrders();
-        RowPress y = of(1, 3, 0, 2, 4);
+        RowPress y = Rows.of(1, 3, 0, 2, 4);
         for (int[] s : NO_STRETCHES) {
             due.is("merge(0, " + s[0] + ", " + s[1] + ", 0)", y.merge(0, s[0], s[1], 0), 0);
             due.is("merge(" + s[0] + ", " + s[1] + ", 5, 0)", y.merge(s[0], s[1], 5, 0), 0);
@@ -200,20 +183,20 @@ public final class PromisesTest {
     }
 
     private static void mergeByOtherOrders() {
-        RowPress unsigned = of(1, -1, 0, MAX, MIN);
+        RowPress unsigned = Rows.of(1, -1, 0, MAX, MIN);
         due.is("merge(0, 2, 5, 0)", unsigned.merge(0, 2, 5, 0), 0);
         due.is("merge(0, 2, 5, 1)", unsigned.merge(0, 2, 5, 1), 1);
         due.row("merge by 1", unsigned, "0:2 1:0 2147483647:3 -2147483648:4 -1:1");
-        RowPress down = of(3, 1, 3, 2, 1);
+        RowPress down = Rows.of(3, 1, 3, 2, 1);
         due.is("merge(0, 2, 5, 2)", down.merge(0, 2, 5, 2), 1);
         due.row("merge by 2", down, "3:0 3:2 2:3 1:1 1:4");
-        RowPress low = of(257, 2, 1, 258, 255);
+        RowPress low = Rows.of(257, 2, 1, 258, 255);
         due.is("merge(0, 2, 5, 3)", low.merge(0, 2, 5, 3), 1);
         due.row("merge by 3", low, "257:0 1:2 2:1 258:3 255:4");
     }
 
     private static void rotate() {
-        RowPress x = five();
+        RowPress x = Rows.five();
         due.is("rotate(0, 2, 5)", x.rotate(0, 2, 5), 1);
         due.row("rotate(0, 2, 5)", x, "2:2 1:3 3:4 3:0 1:1");
         due.is("rotate(1, 3, 4)", x.rotate(1, 3, 4), 1);
@@ -222,7 +205,7 @@ public final class PromisesTest {
         due.is("rotate(0, 5, 5)", x.rotate(0, 5, 5), 1);
         due.is("rotate(5, 5, 5)", x.rotate(5, 5, 5), 1);
         due.row("rotates with none", x, "2:2 3:0 1:3 3:4 1:1");
-        RowPress y = five();
+        RowPress y = Rows.five();
         for (int[] s : NO_STRETCHES) {
             due.is("rotate(0, " + s[0] + ", " + s[1] + ")", y.rotate(0, s[0], s[1]), 0);
             due.is("rotate(" + s[0] + ", " + s[1] + ", 5)", y.rotate(s[0], s[1], 5), 0);
@@ -231,7 +214,7 @@ public final class PromisesTest {
     }
 
     private static void turn() {
-        RowPress x = five();
+        RowPress x = Rows.five();
         due.is("turn(0, 5)", x.turn(0, 5), 1);
         due.row("turn(0, 5)", x, "3:4 1:3 2:2 1:1 3:0");
         due.is("turn(1, 5)", x.turn(1, 5), 1);
@@ -240,7 +223,7 @@ public final class PromisesTest {
         due.is("turn(5, 5)", x.turn(5, 5), 1);
         due.is("turn(2, 3)", x.turn(2, 3), 1);
         due.row("turns of none and one", x, "3:4 3:0 1:1 2:2 1:3");
-        RowPress y = five();
+        RowPress y = Rows.five();
         for (int[] s : NO_STRETCHES) {
             due.is("turn(" + s[0] + ", " + s[1] + ")", y.turn(s[0], s[1]), 0);
         }
@@ -248,7 +231,7 @@ public final class PromisesTest {
     }
 
     private static void split() {
-        RowPress x = of(5, 3, 9, 4, 5, 1, 7, 4);
+        RowPress x = Rows.of(5, 3, 9, 4, 5, 1, 7, 4);
         due.is("split(0, 8, 5, 0)", x.split(0, 8, 5, 0), 4);
         due.row("split(0, 8, 5, 0)", x, "3:1 4:3 1:5 4:7 5:0 9:2 5:4 7:6");
         due.is("split(2, 7, 5, 2)", x.split(2, 7, 5, 2), 1);
@@ -259,13 +242,13 @@ public final class PromisesTest {
         due.is("split(8, 8, 10, 0)", x.split(8, 8, 10, 0), 0);
         due.is("split(3, 4, 10, 0)", x.split(3, 4, 10, 0), 1);
         due.row("splits that move nothing", x, "3:1 4:3 9:2 1:5 4:7 5:0 5:4 7:6");
-        RowPress unsigned = of(-1, MIN, 0, MAX);
+        RowPress unsigned = Rows.of(-1, MIN, 0, MAX);
         due.is("split by 1", unsigned.split(0, 4, MIN, 1), 2);
         due.row("split by 1", unsigned, "0:2 2147483647:3 -1:0 -2147483648:1");
-        RowPress low = of(258, 1, 3, 257);
+        RowPress low = Rows.of(258, 1, 3, 257);
         due.is("split by 3", low.split(0, 4, 514, 3), 2);
         due.row("split by 3", low, "1:1 257:3 258:0 3:2");
-        RowPress y = five();
+        RowPress y = Rows.five();
         for (int[] s : NO_STRETCHES) {
             due.is("split(" + s[0] + ", " + s[1] + ", 2, 0)", y.split(s[0], s[1], 2, 0), -1);
         }
@@ -276,23 +259,23 @@ public final class PromisesTest {
     }
 
     private static void thin() {
-        RowPress x = of(1, 1, 1, 2, 3, 3);
+        RowPress x = Rows.of(1, 1, 1, 2, 3, 3);
         due.is("thin(2) of a row upward", x.thin(2), -1);
         due.is("count(0) after it", x.count(0), 6);
         due.is("thin(0)", x.thin(0), 3);
         due.row("thin(0)", x, "1:0 2:3 3:4");
         due.is("thin(0) again", x.thin(0), 3);
-        RowPress low = of(256, 0, 513, 1, 1);
+        RowPress low = Rows.of(256, 0, 513, 1, 1);
         due.is("thin(0) of what only 3 sorts", low.thin(0), -1);
         due.is("thin(3)", low.thin(3), 2);
         due.row("thin(3)", low, "256:0 513:2");
-        RowPress unsigned = of(0, 0, MAX, MIN, MIN, -1);
+        RowPress unsigned = Rows.of(0, 0, MAX, MIN, MIN, -1);
         due.is("thin(1)", unsigned.thin(1), 4);
         due.row("thin(1)", unsigned, "0:0 2147483647:2 -2147483648:3 -1:5");
-        RowPress down = of(3, 3, 1);
+        RowPress down = Rows.of(3, 3, 1);
         due.is("thin(2)", down.thin(2), 2);
         due.row("thin(2)", down, "3:0 1:2");
-        RowPress y = five();
+        RowPress y = Rows.five();
         for (int order = 0; order < 4; order++) {
             due.is("thin(" + order + ") of a row not sorted", y.thin(order), -1);
         }
@@ -309,7 +292,7 @@ public final class PromisesTest {
     }
 
     private static void sorted() {
-        RowPress x = of(-1, 0, 0, 256, 5);
+        RowPress x = Rows.of(-1, 0, 0, 256, 5);
         int[] wants = {1, 0, 0, 0};
         for (int order = 0; order < 4; order++) {
             due.is("sorted(0, 4, " + order + ")", x.sorted(0, 4, order), wants[order]);
@@ -328,14 +311,14 @@ public final class PromisesTest {
         for (int order : NO_ORDERS) {
             due.is("sorted(0, 5, " + order + ")", x.sorted(0, 5, order), -1);
         }
-        due.is("sorted by 3: 127, 128", of(127, 128).sorted(0, 2, 3), 1);
-        due.is("sorted by 3: 128, 127", of(128, 127).sorted(0, 2, 3), 0);
-        due.is("sorted by 3: 128, 256", of(128, 256).sorted(0, 2, 3), 0);
+        due.is("sorted by 3: 127, 128", Rows.of(127, 128).sorted(0, 2, 3), 1);
+        due.is("sorted by 3: 128, 127", Rows.of(128, 127).sorted(0, 2, 3), 0);
+        due.is("sorted by 3: 128, 256", Rows.of(128, 256).sorted(0, 2, 3), 0);
         due.is("sorted(0, 0, 0) of none", new RowPress().sorted(0, 0, 0), 1);
     }
 
     private static void find() {
-        RowPress x = of(1, 3, 3, 5);
+        RowPress x = Rows.of(1, 3, 3, 5);
         int[][] wants = {{0, 0, 0}, {1, 0, 1}, {2, 1, 1}, {3, 1, 3}, {4, 3, 3}, {5, 3, 4}, {6, 4, 4},
             {MIN, 0, 0}, {MAX, 4, 4}};
         for (int[] w : wants) {
@@ -349,14 +332,14 @@ public final class PromisesTest {
         for (int order : NO_ORDERS) {
             due.is("find(3, " + order + ", 0)", x.find(3, order, 0), -1);
         }
-        RowPress down = of(5, 3, 3, 1);
+        RowPress down = Rows.of(5, 3, 3, 1);
         due.is("find(3, 2, 0)", down.find(3, 2, 0), 1);
         due.is("find(3, 2, 1)", down.find(3, 2, 1), 3);
         due.is("find(3, 0, 0) of a row downward", down.find(3, 0, 0), -1);
-        RowPress unsigned = of(0, MAX, MIN, -1);
+        RowPress unsigned = Rows.of(0, MAX, MIN, -1);
         due.is("find(-1, 1, 0)", unsigned.find(-1, 1, 0), 3);
         due.is("find(MIN, 1, 1)", unsigned.find(MIN, 1, 1), 3);
-        RowPress low = of(256, 1, 513, 255);
+        RowPress low = Rows.of(256, 1, 513, 255);
         due.is("find(257, 3, 0)", low.find(257, 3, 0), 1);
         due.is("find(257, 3, 1)", low.find(257, 3, 1), 3);
         due.is("find(-1, 3, 1)", low.find(-1, 3, 1), 4);
@@ -365,14 +348,14 @@ public final class PromisesTest {
     }
 
     private static void rank() {
-        RowPress x = of(3, 1, 258, 1, 3);
+        RowPress x = Rows.of(3, 1, 258, 1, 3);
         int[][] wants = {{2, 0, 4, 1, 3}, {2, 0, 4, 1, 3}, {1, 3, 0, 4, 2}, {3, 0, 2, 1, 4}};
         for (int order = 0; order < 4; order++) {
             for (int place = 0; place < 5; place++) {
                 due.is("rank(" + place + ", " + order + ")", x.rank(place, order), wants[order][place]);
             }
         }
-        due.is("rank(0, 1) of -1 before 0", of(-1, 0).rank(0, 1), 1);
+        due.is("rank(0, 1) of -1 before 0", Rows.of(-1, 0).rank(0, 1), 1);
         for (int place : new int[] {-1, 5, 499, 500, MIN, MAX}) {
             due.is("rank(" + place + ", 0)", x.rank(place, 0), -1);
         }
@@ -403,7 +386,7 @@ public final class PromisesTest {
     }
 
     private static void count() {
-        RowPress x = of(1, 2, 2, 1, 257, 0, -1);
+        RowPress x = Rows.of(1, 2, 2, 1, 257, 0, -1);
         due.is("count(0)", x.count(0), 7);
         due.is("count(1)", x.count(1), 4);
         due.is("count(2)", x.count(2), 5);
@@ -413,12 +396,12 @@ public final class PromisesTest {
         RowPress none = new RowPress();
         due.is("count(1) of none", none.count(1), 0);
         due.is("count(2) of none", none.count(2), 0);
-        due.is("count(1) of one", of(5).count(1), 1);
-        due.is("count(2) of one", of(5).count(2), 1);
-        due.is("count(1) of alike", of(5, 5, 5).count(1), 1);
-        due.is("count(2) of alike", of(5, 5, 5).count(2), 1);
-        due.is("count(1) of MIN, MAX", of(MIN, MAX).count(1), 1);
-        due.is("count(1) of MAX, MIN", of(MAX, MIN).count(1), 2);
+        due.is("count(1) of one", Rows.of(5).count(1), 1);
+        due.is("count(2) of one", Rows.of(5).count(2), 1);
+        due.is("count(1) of alike", Rows.of(5, 5, 5).count(1), 1);
+        due.is("count(2) of alike", Rows.of(5, 5, 5).count(2), 1);
+        due.is("count(1) of MIN, MAX", Rows.of(MIN, MAX).count(1), 1);
+        due.is("count(1) of MAX, MIN", Rows.of(MAX, MIN).count(1), 2);
         RowPress full = new RowPress();
         full.run(500, 500, -1, 0);
         due.is("count(0) of 500", full.count(0), 500);
