@@ -42,14 +42,12 @@ public final class CheckTest {
     private static void sortsOf(int n) {
         for (int shape = 0; shape < 6; shape++) {
             for (int order = 0; order < 4; order++) {
-                RowPress x = new RowPress();
-                int[] before = new int[n];
-                for (int i = 0; i < n; i++) {
-                    before[i] = key(shape, i, n);
-                    x.put(before[i], i);
-                }
-                x.sort(order);
-                bounds("sort(" + order + ") of " + n + " in shape " + shape, x, before, 0);
+                Press x = new Press();
+                Model m = new Model();
+                fill(x, m, n, shape);
+                int[] before = m.keys();
+                due.is("sort", x.sort(order), m.sortPart(0, n, order));
+                bounds("sort(" + order + ") of " + n + " in shape " + shape, x, n, changes(before, m.keys()));
             }
         }
     }
@@ -57,43 +55,52 @@ public final class CheckTest {
     private static void mergesOf(int n) {
         // One pair before the stretch, where the row has room for it.
         int from = n < 500 ? 1 : 0;
-        for (int mid = 0; mid <= n; mid++) {
+        for (int mid = from; mid <= from + n; mid++) {
             for (int shape = 0; shape < 6; shape++) {
-                RowPress x = new RowPress();
-                for (int i = -from; i < n; i++) {
-                    x.put(key(shape, i, n), i);
-                }
-                x.sortPart(from, from + mid, 0);
-                x.sortPart(from + mid, from + n, 0);
-                int[] before = new int[n];
-                for (int i = 0; i < n; i++) {
-                    before[i] = x.key(from + i);
-                }
-                due.is("merge", x.merge(from, from + mid, from + n, 0), 1);
-                bounds("merge of " + mid + " and " + (n - mid) + " in shape " + shape, x, before, from);
+                Press x = new Press();
+                Model m = new Model();
+                fill(x, m, from + n, shape);
+                due.is("sortPart", x.sortPart(from, mid, 0), m.sortPart(from, mid, 0));
+                due.is("sortPart", x.sortPart(mid, from + n, 0), m.sortPart(mid, from + n, 0));
+                int[] before = m.keys();
+                due.is("merge", x.merge(from, mid, from + n, 0), m.merge(from, mid, from + n, 0));
+                bounds("merge of " + (mid - from) + " of " + n + " in shape " + shape, x, n,
+                    changes(before, m.keys()));
             }
         }
     }
 
-    /** The counts are in the bounds, and not less than any sort's must be. */
-    private static void bounds(String call, RowPress x, int[] before, int from) {
-        int n = before.length;
-        int changed = 0;
+    private static void fill(Press x, Model m, int n, int shape) {
         for (int i = 0; i < n; i++) {
-            changed += before[i] != x.key(from + i) ? 1 : 0;
+            int key = key(shape, i, n);
+            x.put(key, i);
+            m.run(1, key, 0, i);
         }
+    }
+
+    /** At how many places there is another key: each of them must have been written to. */
+    private static int changes(int[] before, int[] after) {
+        int changes = 0;
+        for (int i = 0; i < before.length; i++) {
+            changes += before[i] != after[i] ? 1 : 0;
+        }
+        return changes;
+    }
+
+    /** The counts are in the bounds, and not less than any sort's must be. */
+    private static void bounds(String call, Press x, int n, int changes) {
         int compares = Counts.compares(x);
         int writes = Counts.writes(x);
         due.is(call + ": pairs", Counts.pairs(x), n);
         due.holds(call + ": compares " + compares, compares <= 8 * n * levels(n));
         due.holds(call + ": writes " + writes, writes <= 40 * n * levels(n));
         due.holds(call + ": compares only " + compares, compares >= n - 1);
-        due.holds(call + ": writes only " + writes, writes >= changed);
+        due.holds(call + ": writes only " + writes, writes >= changes);
         due.is(call + ": check()", x.check(), 1);
     }
 
     private static void tellsZero(int n) {
-        RowPress x = new RowPress();
+        Press x = new Press();
         if (n > 0) {
             x.run(n, 5, -1, 0);
         }
@@ -107,14 +114,14 @@ public final class CheckTest {
         due.is("check() after another sort of " + n, x.check(), 1);
     }
 
-    private static void told(int n, RowPress x, int compares, int writes, int want) {
+    private static void told(int n, Press x, int compares, int writes, int want) {
         Counts.set(x, compares, writes);
         due.is("check() of " + n + " with " + compares + " compares, " + writes + " writes", x.check(), want);
     }
 
     /** Calls that do nothing, and calls of other kinds, leave the latest sort's counts alone. */
     private static void onlyTheLatest() {
-        RowPress x = new RowPress();
+        Press x = new Press();
         x.run(100, 50, -1, 0);
         x.sortPart(0, 50, 0);
         int compares = Counts.compares(x);

@@ -11,30 +11,36 @@ final class Counts {
 
     private Counts() { }
 
-    static int pairs(RowPress x) {
+    static int pairs(Press x) {
         return get(PAIRS, x);
     }
 
-    static int compares(RowPress x) {
+    static int compares(Press x) {
         return get(COMPARES, x);
     }
 
-    static int writes(RowPress x) {
+    static int writes(Press x) {
         return get(WRITES, x);
     }
 
-    static void set(RowPress x, int compares, int writes) {
+    static void set(Press x, int compares, int writes) {
+        x.meddle(object -> {
+            put(COMPARES, object, compares);
+            put(WRITES, object, writes);
+        });
+    }
+
+    private static void put(Field field, RowPress object, int count) {
         try {
-            COMPARES.setInt(x, compares);
-            WRITES.setInt(x, writes);
+            field.setInt(object, count);
         } catch (IllegalAccessException e) {
             throw new AssertionError(e);
         }
     }
 
-    private static int get(Field field, RowPress x) {
+    private static int get(Field field, Press x) {
         try {
-            return field.getInt(x);
+            return field.getInt(x.object());
         } catch (IllegalAccessException e) {
             throw new AssertionError(e);
         }

@@ -21,7 +21,7 @@ final class Due {
     }
 
     /** The row is just these pairs, written key:tag with a space between them. */
-    void row(String after, RowPress x, String want) {
+    void row(String after, Press x, String want) {
         String got = Rows.text(x);
         asked++;
         if (!got.equals(want)) {
@@ -30,9 +30,9 @@ final class Due {
     }
 
     /** The call answers so, and does nothing: to no pair, and to nothing that check() judges by. */
-    void nothing(String call, RowPress x, IntSupplier answer, int want) {
+    void nothing(String call, Press x, IntSupplier answer, int want) {
         String before = state(x);
-        is(call, answer.getAsInt(), want);
+        is(call, x.keeping(answer), want);
         holds(call + " did something", state(x).equals(before));
     }
 
@@ -62,11 +62,8 @@ final class Due {
         }
     }
 
-    /**
-     * All that the face shows, a little behind both ends too, and the counts. It asks more often
-     * than the document's 512 calls, which is safe here: the class does not count its calls.
-     */
-    private static String state(RowPress x) {
+    /** All that the face shows, a little behind both ends too, and the counts. */
+    private static String state(Press x) {
         return Rows.text(x, -1, 502) + " " + x.count(0) + " " + x.count(1) + " " + x.check() + " "
             + Counts.pairs(x) + " " + Counts.compares(x) + " " + Counts.writes(x);
     }

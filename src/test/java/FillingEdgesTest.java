@@ -24,7 +24,7 @@ public final class FillingEdgesTest {
     }
 
     private static void atMost500() {
-        RowPress x = new RowPress();
+        Press x = new Press();
         due.is("run(498)", x.run(498, 0, 1, 0), 498);
         due.is("put, the 499th", x.put(-1, -1), 499);
         due.is("run(1), the 500th", x.run(1, -2, 0, -2), 500);
@@ -37,7 +37,7 @@ public final class FillingEdgesTest {
 
     private static void placesFrom0() {
         for (int size : Rows.SIZES) {
-            RowPress x = new RowPress();
+            Press x = new Press();
             if (size > 0) {
                 x.run(size, 1000, 1, 2000);
             }
@@ -52,34 +52,34 @@ public final class FillingEdgesTest {
 
     private static void emptyRow() {
         for (int what = 0; what < 3; what++) {
-            due.is("count(" + what + ")", new RowPress().count(what), 0);
+            due.is("count(" + what + ")", new Press().count(what), 0);
         }
-        due.is("clear()", new RowPress().clear(), 0);
-        due.is("key(0)", new RowPress().key(0), 0);
-        due.is("tag(0)", new RowPress().tag(0), 0);
-        due.is("check()", new RowPress().check(), 1);
-        due.is("turn(0, 0)", new RowPress().turn(0, 0), 1);
-        due.is("turn(0, 1)", new RowPress().turn(0, 1), 0);
-        due.is("rotate(0, 0, 0)", new RowPress().rotate(0, 0, 0), 1);
-        due.is("rotate(0, 0, 1)", new RowPress().rotate(0, 0, 1), 0);
+        due.is("clear()", new Press().clear(), 0);
+        due.is("key(0)", new Press().key(0), 0);
+        due.is("tag(0)", new Press().tag(0), 0);
+        due.is("check()", new Press().check(), 1);
+        due.is("turn(0, 0)", new Press().turn(0, 0), 1);
+        due.is("turn(0, 1)", new Press().turn(0, 1), 0);
+        due.is("rotate(0, 0, 0)", new Press().rotate(0, 0, 0), 1);
+        due.is("rotate(0, 0, 1)", new Press().rotate(0, 0, 1), 0);
         for (int order = 0; order < 4; order++) {
-            due.is("sort(" + order + ")", new RowPress().sort(order), 1);
-            due.is("sortPart(0, 0, " + order + ")", new RowPress().sortPart(0, 0, order), 1);
-            due.is("merge(0, 0, 0, " + order + ")", new RowPress().merge(0, 0, 0, order), 1);
-            due.is("split(0, 0, 1, " + order + ")", new RowPress().split(0, 0, 1, order), 0);
-            due.is("thin(" + order + ")", new RowPress().thin(order), 0);
-            due.is("sorted(0, 0, " + order + ")", new RowPress().sorted(0, 0, order), 1);
-            due.is("find(1, " + order + ", 0)", new RowPress().find(1, order, 0), 0);
-            due.is("find(1, " + order + ", 1)", new RowPress().find(1, order, 1), 0);
-            due.is("rank(0, " + order + ")", new RowPress().rank(0, order), -1);
+            due.is("sort(" + order + ")", new Press().sort(order), 1);
+            due.is("sortPart(0, 0, " + order + ")", new Press().sortPart(0, 0, order), 1);
+            due.is("merge(0, 0, 0, " + order + ")", new Press().merge(0, 0, 0, order), 1);
+            due.is("split(0, 0, 1, " + order + ")", new Press().split(0, 0, 1, order), 0);
+            due.is("thin(" + order + ")", new Press().thin(order), 0);
+            due.is("sorted(0, 0, " + order + ")", new Press().sorted(0, 0, order), 1);
+            due.is("find(1, " + order + ", 0)", new Press().find(1, order, 0), 0);
+            due.is("find(1, " + order + ", 1)", new Press().find(1, order, 1), 0);
+            due.is("rank(0, " + order + ")", new Press().rank(0, order), -1);
         }
-        RowPress full = Rows.mixed(500);
-        due.is("another object beside a full one", new RowPress().count(0), 0);
+        Press full = Rows.mixed(500);
+        due.is("another object beside a full one", new Press().count(0), 0);
         due.is("the full one", full.count(0), 500);
     }
 
     private static void putAtTheEnd() {
-        RowPress x = new RowPress();
+        Press x = new Press();
         for (int i = 1; i <= 500; i++) {
             due.is("put number " + i, x.put(-i, i), i);
             due.is("its key", x.key(i - 1), -i);
@@ -89,7 +89,7 @@ public final class FillingEdgesTest {
     }
 
     private static void putWhenFull() {
-        RowPress x = Rows.mixed(499);
+        Press x = Rows.mixed(499);
         due.is("put with 499", x.put(1, 2), 500);
         for (int i = 0; i < 3; i++) {
             due.nothing("put with 500", x, () -> x.put(MAX, MIN), -1);
@@ -103,22 +103,22 @@ public final class FillingEdgesTest {
     }
 
     private static void keysRunOver() {
-        RowPress up = new RowPress();
+        Press up = new Press();
         due.is("run(4, MAX - 1, 1, 0)", up.run(4, MAX - 1, 1, 0), 4);
         due.row("run upward over MAX", up, "2147483646:0 2147483647:1 -2147483648:2 -2147483647:3");
-        RowPress down = new RowPress();
+        Press down = new Press();
         due.is("run(4, MIN + 1, -1, 0)", down.run(4, MIN + 1, -1, 0), 4);
         due.row("run downward over MIN", down, "-2147483647:0 -2147483648:1 2147483647:2 2147483646:3");
-        RowPress byMin = new RowPress();
+        Press byMin = new Press();
         due.is("run(3, 1, MIN, 0)", byMin.run(3, 1, MIN, 0), 3);
         due.row("run by MIN", byMin, "1:0 -2147483647:1 1:2");
-        RowPress byMax = new RowPress();
+        Press byMax = new Press();
         due.is("run(4, 5, MAX, 0)", byMax.run(4, 5, MAX, 0), 4);
         due.row("run by MAX", byMax, "5:0 -2147483644:1 3:2 -2147483646:3");
-        RowPress byNone = new RowPress();
+        Press byNone = new Press();
         due.is("run(2, MIN, 0, 0)", byNone.run(2, MIN, 0, 0), 2);
         due.row("run by 0", byNone, "-2147483648:0 -2147483648:1");
-        RowPress long500 = new RowPress();
+        Press long500 = new Press();
         long500.run(500, MAX, 987654321, 0);
         int key = MAX;
         for (int place = 0; place < 500; place++) {
@@ -128,28 +128,28 @@ public final class FillingEdgesTest {
     }
 
     private static void tagsRunOver() {
-        RowPress x = new RowPress();
+        Press x = new Press();
         due.is("run(3, 0, 5, MAX - 1)", x.run(3, 0, 5, MAX - 1), 3);
         due.row("run with tags over MAX", x, "0:2147483646 5:2147483647 10:-2147483648");
-        RowPress y = new RowPress();
+        Press y = new Press();
         due.is("run(3, 0, -5, -1)", y.run(3, 0, -5, -1), 3);
         due.row("run with tags over 0", y, "0:-1 -5:0 -10:1");
     }
 
     private static void runOfNoSuchNumber() {
         for (int size : Rows.SIZES) {
-            RowPress x = Rows.mixed(size);
+            Press x = Rows.mixed(size);
             for (int n : new int[] {0, -1, -size, -500, -501, MIN, MIN + 1, 501, 502, MAX, MAX - size, MAX - 499}) {
                 due.nothing("run(" + n + ") with " + size, x, () -> x.run(n, 1, 1, 1), -1);
             }
         }
-        due.is("run(1) with none", new RowPress().run(1, 1, 1, 1), 1);
-        due.is("run(500) with none", new RowPress().run(500, 1, 1, 1), 500);
+        due.is("run(1) with none", new Press().run(1, 1, 1, 1), 1);
+        due.is("run(500) with none", new Press().run(500, 1, 1, 1), 500);
     }
 
     private static void runOfTooMany() {
         for (int size : new int[] {1, 2, 250, 498, 499, 500}) {
-            RowPress x = Rows.mixed(size);
+            Press x = Rows.mixed(size);
             for (int n : new int[] {501 - size, 502 - size, 499 + 500 - size, 500}) {
                 if (n <= 500) {
                     due.nothing("run(" + n + ") with " + size, x, () -> x.run(n, 1, 1, 1), -1);
@@ -164,7 +164,7 @@ public final class FillingEdgesTest {
     }
 
     private static void refusedRunLeavesNoPart() {
-        RowPress x = Rows.five();
+        Press x = Rows.five();
         due.nothing("run(496) with 5", x, () -> x.run(496, 8, 8, 8), -1);
         due.nothing("run(0) with 5", x, () -> x.run(0, 8, 8, 8), -1);
         due.is("put behind refused runs", x.put(6, 6), 6);
@@ -172,26 +172,26 @@ public final class FillingEdgesTest {
     }
 
     private static void clearTellsHowMany() {
-        RowPress x = new RowPress();
+        Press x = new Press();
         due.is("clear() of none", x.clear(), 0);
         due.is("clear() of none again", x.clear(), 0);
         for (int size : Rows.SIZES) {
-            RowPress y = Rows.mixed(size);
+            Press y = Rows.mixed(size);
             due.is("clear() of " + size, y.clear(), size);
             due.is("clear() after it", y.clear(), 0);
         }
-        RowPress full = Rows.mixed(500);
+        Press full = Rows.mixed(500);
         full.put(1, 1);
         full.run(1, 1, 1, 1);
         due.is("clear() of 500 after refused calls", full.clear(), 500);
-        RowPress thinned = Rows.alike(9);
+        Press thinned = Rows.alike(9);
         thinned.thin(0);
         due.is("clear() of one left by thin", thinned.clear(), 1);
     }
 
     private static void clearLeavesNone() {
         for (int size : Rows.SIZES) {
-            RowPress x = Rows.mixed(size);
+            Press x = Rows.mixed(size);
             x.clear();
             due.row("clear of " + size, x, "");
             for (int place = 0; place < 500; place++) {
@@ -208,7 +208,7 @@ public final class FillingEdgesTest {
     }
 
     private static void calls512() {
-        RowPress x = new RowPress();
+        Press x = new Press();
         for (int call = 1; call <= 500; call++) {
             x.put(-call, call);
         }

@@ -1,190 +1,22 @@
-import java.util.ArrayList;
-import java.util.Collections;
-import java.util.Comparator;
-import java.util.HashSet;
-import java.util.List;
-import java.util.Set;
+import java.util.Arrays;
 
-/** Long runs of calls on RowPress and on a plain model of the document, which must agree. */
+/** Runs of calls on RowPress and on a plain model of the document, which must agree. */
 public final class ModelTest {
-    private static final int RUNS = 600;
-    private static final int CALLS = 512;
+    private static final int RUNS = 900;
+    private static final int LONG_RUNS = 3000;
+    // One clear, two sorts and a merge, a key and a tag.
+    private static final int MOST_CALLS_OF_A_STEP = 6;
     private static final int[] WILD = {-1, 0, 1, 2, 255, 256, 499, 500, 501, Integer.MIN_VALUE, Integer.MAX_VALUE};
 
     private static final Due due = new Due();
     private static long seed = 20261115L;
 
-    /** The document, in the plainest words that Java's library has. */
-    private static final class Model {
-        record Pair(int key, int tag) { }
-
-        List<Pair> row = new ArrayList<>();
-
-        static boolean order(int order) {
-            return order >= 0 && order <= 3;
-        }
-
-        boolean stretch(int from, int to) {
-            return 0 <= from && from <= to && to <= row.size();
-        }
-
-        static int compare(int a, int b, int order) {
-            return switch (order) {
-                case 0 -> Integer.compare(a, b);
-                case 1 -> Integer.compareUnsigned(a, b);
-                case 2 -> Integer.compare(b, a);
-                default -> Integer.compare(Math.floorMod(a, 256), Math.floorMod(b, 256));
-            };
-        }
-
-        static Comparator<Pair> by(int order) {
-            return (a, b) -> compare(a.key, b.key, order);
-        }
-
-        boolean sortedBy(int from, int to, int order) {
-            List<Pair> copy = new ArrayList<>(row.subList(from, to));
-            copy.sort(by(order));
-            for (int i = 0; i < copy.size(); i++) {
-                if (compare(copy.get(i).key, row.get(from + i).key, order) != 0) {
-                    return false;
-                }
-            }
-            return true;
-        }
-
-        int run(int n, int key, int step, int tag) {
-            if (n < 1 || n > 500 || n + row.size() > 500) {
-                return -1;
-            }
-            for (int i = 0; i < n; i++) {
-                row.add(new Pair(key, tag));
-                key += step;
-                tag++;
-            }
-            return row.size();
-        }
-
-        int clear() {
-            int were = row.size();
-            row.clear();
-            return were;
-        }
-
-        int sortPart(int from, int to, int order) {
-            if (!stretch(from, to) || !order(order)) {
-                return 0;
-            }
-            row.subList(from, to).sort(by(order));
-            return 1;
-        }
-
-        int merge(int from, int mid, int to, int order) {
-            if (!stretch(from, mid) || !stretch(mid, to) || !order(order)
-                || !sortedBy(from, mid, order) || !sortedBy(mid, to, order)) {
-                return 0;
-            }
-            return sortPart(from, to, order);
-        }
-
-        int rotate(int from, int mid, int to) {
-            if (!stretch(from, mid) || !stretch(mid, to)) {
-                return 0;
-            }
-            Collections.rotate(row.subList(from, to), to - mid);
-            return 1;
-        }
-
-        int turn(int from, int to) {
-            if (!stretch(from, to)) {
-                return 0;
-            }
-            Collections.reverse(row.subList(from, to));
-            return 1;
-        }
-
-        int split(int from, int to, int key, int order) {
-            if (!stretch(from, to) || !order(order)) {
-                return -1;
-            }
-            List<Pair> less = new ArrayList<>();
-            List<Pair> others = new ArrayList<>();
-            for (Pair pair : row.subList(from, to)) {
-                (compare(pair.key, key, order) < 0 ? less : others).add(pair);
-            }
-            int count = less.size();
-            less.addAll(others);
-            for (int i = 0; i < less.size(); i++) {
-                row.set(from + i, less.get(i));
-            }
-            return count;
-        }
-
-        int thin(int order) {
-            if (!order(order) || !sortedBy(0, row.size(), order)) {
-                return -1;
-            }
-            List<Pair> left = new ArrayList<>();
-            for (Pair pair : row) {
-                if (left.stream().noneMatch(p -> compare(p.key, pair.key, order) == 0)) {
-                    left.add(pair);
-                }
-            }
-            row = left;
-            return row.size();
-        }
-
-        int sorted(int from, int to, int order) {
-            return !stretch(from, to) || !order(order) ? -1 : sortedBy(from, to, order) ? 1 : 0;
-        }
-
-        int find(int key, int order, int equal) {
-            if (!order(order) || equal < 0 || equal > 1 || !sortedBy(0, row.size(), order)) {
-                return -1;
-            }
-            return (int) row.stream().filter(p -> compare(p.key, key, order) < equal).count();
-        }
-
-        int rank(int place, int order) {
-            if (place < 0 || place >= row.size() || !order(order)) {
-                return -1;
-            }
-            List<Integer> places = new ArrayList<>();
-            for (int i = 0; i < row.size(); i++) {
-                places.add(i);
-            }
-            places.sort((a, b) -> compare(row.get(a).key, row.get(b).key, order));
-            return places.indexOf(place);
-        }
-
-        int count(int what) {
-            if (what == 0) {
-                return row.size();
-            }
-            if (what == 2) {
-                Set<Integer> keys = new HashSet<>();
-                row.forEach(p -> keys.add(p.key));
-                return keys.size();
-            }
-            if (what != 1) {
-                return -1;
-            }
-            int stretches = 0;
-            int from = 0;
-            while (from < row.size()) {
-                int to = from + 1;
-                while (to < row.size() && row.get(to - 1).key <= row.get(to).key) {
-                    to++;
-                }
-                stretches++;
-                from = to;
-            }
-            return stretches;
-        }
-    }
-
     public static void main(String[] args) {
         for (int run = 0; run < RUNS && due.wrong() == 0; run++) {
             oneRun(run);
+        }
+        for (int run = 0; run < LONG_RUNS && due.wrong() == 0; run++) {
+            longRun(run);
         }
         everyMerge();
         due.end();
@@ -217,24 +49,49 @@ public final class ModelTest {
         return random(40) == 0 ? wild() : random(4);
     }
 
+    /** The whole row is read after each call. To read a long one costs much, so such runs are short. */
     private static void oneRun(int run) {
-        RowPress x = new RowPress();
+        Press x = new Press();
         Model m = new Model();
-        int kind = run % 4;
-        int most = 1 + random(run % 3 == 0 ? 500 : 24);
-        for (int call = 0; call < CALLS; call++) {
-            if (m.row.size() > most && random(8) == 0) {
-                due.is("clear()", x.clear(), m.clear());
-            }
-            oneCall(run, x, m, kind);
-            same("run " + run + ", call " + call, x, m);
-            if (due.wrong() != 0) {
-                return;
-            }
+        boolean isBig = run % 3 == 0;
+        int most = 1 + random(isBig ? 500 : 24);
+        int steps = isBig ? 40 : 100;
+        for (int step = 0; step < steps && due.wrong() == 0; step++) {
+            clearSome(x, m, most);
+            oneCall("run " + run, x, m, run % 4);
+            same("run " + run + ", step " + step, x, m);
         }
     }
 
-    private static void oneCall(int run, RowPress x, Model m, int kind) {
+    /** All the calls that an object has, and none more: what it holds is seen at single places only. */
+    private static void longRun(int run) {
+        Press x = new Press();
+        Model m = new Model();
+        int most = 1 + random(run % 2 == 0 ? 500 : 24);
+        while (x.used() <= Press.MOST_CALLS - MOST_CALLS_OF_A_STEP && due.wrong() == 0) {
+            clearSome(x, m, most);
+            oneCall("long run " + run, x, m, run % 4);
+            onePlace("long run " + run, x, m);
+        }
+        while (x.used() < Press.MOST_CALLS && due.wrong() == 0) {
+            due.is("long run " + run + ": check()", x.check(), 1);
+        }
+    }
+
+    private static void clearSome(Press x, Model m, int most) {
+        if (m.row.size() > most && random(8) == 0) {
+            due.is("clear()", x.clear(), m.clear());
+        }
+    }
+
+    private static void onePlace(String when, Press x, Model m) {
+        int place = place(m);
+        boolean isPlace = place >= 0 && place < m.row.size();
+        due.is(when + ": key(" + place + ")", x.key(place), isPlace ? m.row.get(place).key() : 0);
+        due.is(when + ": tag(" + place + ")", x.tag(place), isPlace ? m.row.get(place).tag() : 0);
+    }
+
+    private static void oneCall(String run, Press x, Model m, int kind) {
         int a = place(m);
         int b = place(m);
         int c = place(m);
@@ -242,7 +99,7 @@ public final class ModelTest {
         int k = someKey(kind);
         int low = Math.min(a, b);
         int high = Math.max(a, b);
-        String args = "run " + run + " (" + a + " " + b + " " + c + " order " + o + " key " + k + ") ";
+        String args = run + " (" + a + " " + b + " " + c + " order " + o + " key " + k + ") ";
         switch (random(20)) {
             case 0, 1 -> due.is(args + "put", x.put(k, a), m.run(1, k, 0, a));
             case 2 -> {
@@ -275,7 +132,7 @@ public final class ModelTest {
             case 17 -> due.is(args + "rank", x.rank(a, o), m.rank(a, o));
             case 18 -> {
                 int[] s = {a, b, c};
-                java.util.Arrays.sort(s);
+                Arrays.sort(s);
                 due.is(args + "rotate", x.rotate(s[0], s[1], s[2]), m.rotate(s[0], s[1], s[2]));
             }
             default -> {
@@ -285,8 +142,8 @@ public final class ModelTest {
         }
     }
 
-    private static void mergeSome(String args, RowPress x, Model m, int[] s, int o) {
-        java.util.Arrays.sort(s);
+    private static void mergeSome(String args, Press x, Model m, int[] s, int o) {
+        Arrays.sort(s);
         x.sortPart(s[0], s[1], o);
         m.sortPart(s[0], s[1], o);
         x.sortPart(s[1], s[2], o);
@@ -294,7 +151,7 @@ public final class ModelTest {
         due.is(args + "merge of sorted", x.merge(s[0], s[1], s[2], o), m.merge(s[0], s[1], s[2], o));
     }
 
-    private static void same(String when, RowPress x, Model m) {
+    private static void same(String when, Press x, Model m) {
         due.is(when + ": count(0)", x.count(0), m.row.size());
         for (int place = 0; place < m.row.size(); place++) {
             due.is(when + ": key(" + place + ")", x.key(place), m.row.get(place).key());
@@ -321,7 +178,7 @@ public final class ModelTest {
     private static void mergeOne(int first, int second, int zeros, int ones) {
         for (int low = 0; low <= second; low++) {
             for (int middle = low; middle <= second; middle++) {
-                RowPress x = new RowPress();
+                Press x = new Press();
                 Model m = new Model();
                 add(x, m, first, zeros, ones);
                 add(x, m, second, low, middle);
@@ -331,7 +188,7 @@ public final class ModelTest {
         }
     }
 
-    private static void add(RowPress x, Model m, int n, int zeros, int ones) {
+    private static void add(Press x, Model m, int n, int zeros, int ones) {
         for (int i = 0; i < n; i++) {
             int key = i < zeros ? 0 : i < ones ? 1 : 2;
             int tag = m.row.size();

@@ -30,7 +30,7 @@ public final class MovingEdgesTest {
     private static void rotateAny() {
         for (int[] s : new int[][] {{0, 250, 500}, {0, 1, 500}, {0, 499, 500}, {498, 499, 500}, {0, 1, 2},
             {1, 2, 499}, {3, 5, 10}, {3, 8, 10}}) {
-            RowPress x = Rows.mixed(500);
+            Press x = Rows.mixed(500);
             String call = "rotate(" + s[0] + ", " + s[1] + ", " + s[2] + ")";
             due.is(call, x.rotate(s[0], s[1], s[2]), 1);
             for (int place = 0; place < 500; place++) {
@@ -47,7 +47,7 @@ public final class MovingEdgesTest {
 
     private static void rotateNone() {
         for (int size : Rows.SIZES) {
-            RowPress x = Rows.mixed(size);
+            Press x = Rows.mixed(size);
             for (int[] s : Rows.stretches(size)) {
                 String call = "rotate of " + s[0] + " to " + s[1] + " of " + size;
                 due.nothing(call + ", the first empty", x, () -> x.rotate(s[0], s[0], s[1]), 1);
@@ -58,13 +58,13 @@ public final class MovingEdgesTest {
 
     private static void rotateWithoutFirst() {
         for (int size : Rows.SIZES) {
-            RowPress x = Rows.mixed(size);
+            Press x = Rows.mixed(size);
             for (int[] s : Rows.noStretches(size)) {
                 due.nothing("rotate(" + s[0] + ", " + s[1] + ", " + size + ") of " + size, x,
                     () -> x.rotate(s[0], s[1], size), 0);
             }
         }
-        RowPress x = Rows.five();
+        Press x = Rows.five();
         due.nothing("rotate(3, 2, 5)", x, () -> x.rotate(3, 2, 5), 0);
         due.nothing("rotate(-1, 2, 5)", x, () -> x.rotate(-1, 2, 5), 0);
         due.nothing("rotate(-1, 0, 0)", x, () -> x.rotate(-1, 0, 0), 0);
@@ -72,13 +72,13 @@ public final class MovingEdgesTest {
 
     private static void rotateWithoutSecond() {
         for (int size : Rows.SIZES) {
-            RowPress x = Rows.mixed(size);
+            Press x = Rows.mixed(size);
             for (int[] s : Rows.noStretches(size)) {
                 due.nothing("rotate(0, " + s[0] + ", " + s[1] + ") of " + size, x,
                     () -> x.rotate(0, s[0], s[1]), 0);
             }
         }
-        RowPress x = Rows.five();
+        Press x = Rows.five();
         due.nothing("rotate(0, 3, 2)", x, () -> x.rotate(0, 3, 2), 0);
         due.nothing("rotate(0, 3, 6)", x, () -> x.rotate(0, 3, 6), 0);
         due.nothing("rotate(5, 5, 6)", x, () -> x.rotate(5, 5, 6), 0);
@@ -88,7 +88,7 @@ public final class MovingEdgesTest {
     private static void turnAny() {
         for (int size : Rows.SIZES) {
             for (int[] s : Rows.stretches(size)) {
-                RowPress x = Rows.mixed(size);
+                Press x = Rows.mixed(size);
                 String call = "turn(" + s[0] + ", " + s[1] + ") of " + size;
                 due.is(call, x.turn(s[0], s[1]), 1);
                 due.is("count(0) after " + call, x.count(0), size);
@@ -103,7 +103,7 @@ public final class MovingEdgesTest {
 
     private static void turnOfNoStretch() {
         for (int size : Rows.SIZES) {
-            RowPress x = Rows.mixed(size);
+            Press x = Rows.mixed(size);
             for (int[] s : Rows.noStretches(size)) {
                 due.nothing("turn(" + s[0] + ", " + s[1] + ") of " + size, x, () -> x.turn(s[0], s[1]), 0);
             }
@@ -113,7 +113,7 @@ public final class MovingEdgesTest {
     private static void splitAny() {
         for (int size : Rows.SIZES) {
             for (int[] s : Rows.stretches(size)) {
-                RowPress x = Rows.mixed(size);
+                Press x = Rows.mixed(size);
                 int less = 0;
                 for (int place = s[0]; place < s[1]; place++) {
                     less += x.key(place) < 100 ? 1 : 0;
@@ -137,15 +137,15 @@ public final class MovingEdgesTest {
         int[][] ends = {{MIN, MAX}, {0, -1}, {MAX, MIN}, {256, -1}};
         for (int order = 0; order < 4; order++) {
             int by = order;
-            RowPress x = Rows.of(5, 3, 5, 700, 4);
+            Press x = Rows.of(5, 3, 5, 700, 4);
             due.nothing("split(0, 5, the least, " + by + ")", x, () -> x.split(0, 5, ends[by][0], by), 0);
             due.nothing("split(0, 5, the most, " + by + ")", x, () -> x.split(0, 5, ends[by][1], by), 5);
-            RowPress most = Rows.of(ends[by][1], ends[by][1]);
+            Press most = Rows.of(ends[by][1], ends[by][1]);
             due.nothing("split at the most of the most, " + by, most, () -> most.split(0, 2, ends[by][1], by), 0);
-            RowPress alike = Rows.alike(500);
+            Press alike = Rows.alike(500);
             due.nothing("split of 500 alike, " + by, alike, () -> alike.split(0, 500, 7, by), 0);
         }
-        RowPress one = Rows.of(4);
+        Press one = Rows.of(4);
         due.nothing("split of one less", one, () -> one.split(0, 1, 5, 0), 1);
         due.nothing("split of one not less", one, () -> one.split(0, 1, 4, 0), 0);
         due.nothing("split of none at its end", one, () -> one.split(1, 1, 5, 0), 0);
@@ -154,7 +154,7 @@ public final class MovingEdgesTest {
     private static void splitKeepsBoth() {
         for (int size : Rows.SIZES) {
             for (int order = 0; order < 4; order++) {
-                RowPress x = Rows.mixed(size);
+                Press x = Rows.mixed(size);
                 int less = x.split(0, size, 100, order);
                 for (int place = 1; place < size; place++) {
                     due.holds("tags at " + place + " of " + size + " by " + order,
@@ -166,7 +166,7 @@ public final class MovingEdgesTest {
 
     private static void splitOfNoStretch() {
         for (int size : Rows.SIZES) {
-            RowPress x = Rows.mixed(size);
+            Press x = Rows.mixed(size);
             for (int[] s : Rows.noStretches(size)) {
                 due.nothing("split(" + s[0] + ", " + s[1] + ", 100, 0) of " + size, x,
                     () -> x.split(s[0], s[1], 100, 0), -1);
@@ -176,7 +176,7 @@ public final class MovingEdgesTest {
 
     private static void splitByNoOrder() {
         for (int size : Rows.SIZES) {
-            RowPress x = Rows.mixed(size);
+            Press x = Rows.mixed(size);
             for (int order : Rows.NO_ORDERS) {
                 for (int[] s : Rows.stretches(size)) {
                     due.nothing("split(" + s[0] + ", " + s[1] + ", 100, " + order + ") of " + size, x,
@@ -188,33 +188,33 @@ public final class MovingEdgesTest {
 
     private static void thinAny() {
         for (int order = 0; order < 4; order++) {
-            due.is("thin(" + order + ") of none", new RowPress().thin(order), 0);
-            RowPress one = Rows.of(-300);
+            due.is("thin(" + order + ") of none", new Press().thin(order), 0);
+            Press one = Rows.of(-300);
             int by = order;
             due.nothing("thin(" + by + ") of one", one, () -> one.thin(by), 1);
-            RowPress alike = Rows.alike(500);
+            Press alike = Rows.alike(500);
             due.is("thin(" + by + ") of 500 alike", alike.thin(by), 1);
             due.row("thin(" + by + ") of 500 alike", alike, "7:0");
         }
-        RowPress up = new RowPress();
+        Press up = new Press();
         up.run(500, -250, 1, 0);
         due.nothing("thin(0) of 500 different", up, () -> up.thin(0), 500);
-        RowPress last = Rows.of(1, 2, 3, 3);
+        Press last = Rows.of(1, 2, 3, 3);
         due.is("thin(0), the last two alike", last.thin(0), 3);
         due.row("thin(0), the last two alike", last, "1:0 2:1 3:2");
-        RowPress first = Rows.of(3, 3, 2, 1);
+        Press first = Rows.of(3, 3, 2, 1);
         due.is("thin(2), the first two alike", first.thin(2), 3);
         due.row("thin(2), the first two alike", first, "3:0 2:2 1:3");
-        RowPress low = Rows.of(256, 0, MIN, 1, 257, -1, MAX);
+        Press low = Rows.of(256, 0, MIN, 1, 257, -1, MAX);
         due.is("thin(3), alike by 3 alone", low.thin(3), 3);
         due.row("thin(3), alike by 3 alone", low, "256:0 1:3 -1:5");
-        RowPress ends = Rows.of(0, 0, MAX, MIN, -1, -1);
+        Press ends = Rows.of(0, 0, MAX, MIN, -1, -1);
         due.is("thin(1), the ends alike", ends.thin(1), 4);
         due.row("thin(1), the ends alike", ends, "0:0 2147483647:2 -2147483648:3 -1:4");
     }
 
     private static void thinnedOutAreGone() {
-        RowPress x = Rows.alike(500);
+        Press x = Rows.alike(500);
         x.thin(0);
         for (int place = 1; place < 500; place++) {
             due.is("key(" + place + ")", x.key(place), 0);
@@ -230,7 +230,7 @@ public final class MovingEdgesTest {
 
     private static void thinOfNotSorted() {
         for (int[] keys : new int[][] {{2, 1, 1, 3, 4}, {1, 1, 3, 2, 4}, {1, 1, 2, 4, 3}}) {
-            RowPress x = Rows.of(keys);
+            Press x = Rows.of(keys);
             for (int order = 0; order < 4; order++) {
                 int by = order;
                 due.nothing("thin(" + by + ")", x, () -> x.thin(by), -1);
@@ -239,7 +239,7 @@ public final class MovingEdgesTest {
         int[][] sortedBy = {{-1, 0, 255, 256}, {255, 256, MIN, -1}, {256, 255, 0, -1}, {256, 0, -1, 255}};
         for (int sorted = 0; sorted < 4; sorted++) {
             for (int order = 0; order < 4; order++) {
-                RowPress x = Rows.of(sortedBy[sorted]);
+                Press x = Rows.of(sortedBy[sorted]);
                 int by = order;
                 if (order == sorted) {
                     due.is("thin(" + by + ") of one sorted by it", x.thin(by), by == 3 ? 2 : 4);
@@ -248,7 +248,7 @@ public final class MovingEdgesTest {
                 }
             }
         }
-        RowPress full = Rows.mixed(500);
+        Press full = Rows.mixed(500);
         full.sort(0);
         full.turn(498, 500);
         due.nothing("thin(0) of 500, the last two not sorted", full, () -> full.thin(0), -1);
@@ -257,10 +257,10 @@ public final class MovingEdgesTest {
     private static void thinByNoOrder() {
         for (int order : Rows.NO_ORDERS) {
             for (int size : new int[] {1, 5, 500}) {
-                RowPress x = Rows.alike(size);
+                Press x = Rows.alike(size);
                 due.nothing("thin(" + order + ") of " + size + " alike", x, () -> x.thin(order), -1);
             }
-            RowPress none = new RowPress();
+            Press none = new Press();
             due.nothing("thin(" + order + ") of none", none, () -> none.thin(order), -1);
         }
     }

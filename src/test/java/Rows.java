@@ -9,21 +9,21 @@ final class Rows {
     private Rows() { }
 
     /** A row with these keys, the tags 0, 1, 2 .. */
-    static RowPress of(int... keys) {
-        RowPress x = new RowPress();
+    static Press of(int... keys) {
+        Press x = new Press();
         for (int i = 0; i < keys.length; i++) {
             x.put(keys[i], i);
         }
         return x;
     }
 
-    static RowPress five() {
+    static Press five() {
         return of(3, 1, 2, 1, 3);
     }
 
     /** A row of n pairs that no order finds sorted if there are more than a few. */
-    static RowPress mixed(int n) {
-        RowPress x = new RowPress();
+    static Press mixed(int n) {
+        Press x = new Press();
         // What stood there before shows if a call looks behind the row's end.
         x.run(500, -1000, 7, 9000);
         x.clear();
@@ -34,8 +34,8 @@ final class Rows {
     }
 
     /** A row of n pairs with all keys alike, the tags 0, 1, 2 .. */
-    static RowPress alike(int n) {
-        RowPress x = new RowPress();
+    static Press alike(int n) {
+        Press x = new Press();
         x.run(n, 7, 0, 0);
         return x;
     }
@@ -60,7 +60,7 @@ final class Rows {
     }
 
     /** The row's pairs from a place to before another, written key:tag with a space between them. */
-    static String text(RowPress x, int from, int to) {
+    static String text(Press x, int from, int to) {
         StringBuilder text = new StringBuilder();
         for (int place = from; place < to; place++) {
             text.append(place == from ? "" : " ").append(x.key(place)).append(':').append(x.tag(place));
@@ -68,7 +68,7 @@ final class Rows {
         return text.toString();
     }
 
-    static String text(RowPress x) {
+    static String text(Press x) {
         return text(x, 0, x.count(0));
     }
 }

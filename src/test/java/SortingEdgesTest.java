@@ -35,7 +35,7 @@ public final class SortingEdgesTest {
         String keys = more + " and " + less + " by " + order;
         due.is("sorted " + keys, Rows.of(more, less).sorted(0, 2, order), 0);
         due.is("sorted " + keys + ", turned", Rows.of(less, more).sorted(0, 2, order), 1);
-        RowPress x = Rows.of(more, less);
+        Press x = Rows.of(more, less);
         due.is("sort " + keys, x.sort(order), 1);
         due.row("sort " + keys, x, less + ":1 " + more + ":0");
         due.is("find " + keys, x.find(more, order, 0), 1);
@@ -46,7 +46,7 @@ public final class SortingEdgesTest {
 
     private static void alike(int order, int one, int other) {
         String keys = one + " and " + other + " by " + order;
-        RowPress x = Rows.of(one, other);
+        Press x = Rows.of(one, other);
         due.is("sort " + keys, x.sort(order), 1);
         due.row("sort " + keys, x, one + ":0 " + other + ":1");
         due.is("sorted " + keys, x.sorted(0, 2, order), 1);
@@ -115,14 +115,14 @@ public final class SortingEdgesTest {
 
     private static void alikeStandAsTheyStood() {
         for (int order = 0; order < 4; order++) {
-            RowPress x = Rows.alike(500);
+            Press x = Rows.alike(500);
             due.is("sort(" + order + ")", x.sort(order), 1);
             due.is("merge by " + order, x.merge(0, 123, 500, order), 1);
             for (int place = 0; place < 500; place++) {
                 due.is("tag(" + place + ") by " + order, x.tag(place), place);
             }
         }
-        RowPress low = new RowPress();
+        Press low = new Press();
         low.run(500, 0, 128, 0);
         low.sort(3);
         for (int place = 0; place < 500; place++) {
@@ -132,7 +132,7 @@ public final class SortingEdgesTest {
     }
 
     /** The stretch is sorted by the order, and the tags of those alike rise, as they did before. */
-    private static void stable(String after, RowPress x, int from, int to, int order) {
+    private static void stable(String after, Press x, int from, int to, int order) {
         due.is("sorted after " + after, x.sorted(from, to, order), 1);
         for (int place = from + 1; place < to; place++) {
             boolean alike = x.sorted(place - 1, place + 1, order) == 1
@@ -151,7 +151,7 @@ public final class SortingEdgesTest {
     private static void sortOfAnyLength() {
         for (int n : new int[] {0, 1, 2, 3, 4, 5, 7, 8, 9, 255, 256, 257, 499, 500}) {
             for (int order = 0; order < 4; order++) {
-                RowPress x = Rows.mixed(n);
+                Press x = Rows.mixed(n);
                 due.is("sort(" + order + ") of " + n, x.sort(order), 1);
                 due.is("count(0) after it", x.count(0), n);
                 stable("sort(" + order + ") of " + n, x, 0, n, order);
@@ -165,7 +165,7 @@ public final class SortingEdgesTest {
     private static void sortByNoOrder() {
         for (int size : Rows.SIZES) {
             for (int order : Rows.NO_ORDERS) {
-                RowPress x = Rows.mixed(size);
+                Press x = Rows.mixed(size);
                 due.nothing("sort(" + order + ") of " + size, x, () -> x.sort(order), 0);
             }
         }
@@ -175,7 +175,7 @@ public final class SortingEdgesTest {
         for (int size : Rows.SIZES) {
             for (int[] s : Rows.stretches(size)) {
                 for (int order = 0; order < 4; order++) {
-                    RowPress x = Rows.mixed(size);
+                    Press x = Rows.mixed(size);
                     String call = "sortPart(" + s[0] + ", " + s[1] + ", " + order + ") of " + size;
                     String before = Rows.text(x, 0, s[0]);
                     String behind = Rows.text(x, s[1], size);
@@ -192,7 +192,7 @@ public final class SortingEdgesTest {
         for (int size : Rows.SIZES) {
             for (int order : Rows.NO_ORDERS) {
                 for (int[] s : Rows.stretches(size)) {
-                    RowPress x = Rows.mixed(size);
+                    Press x = Rows.mixed(size);
                     due.nothing("sortPart(" + s[0] + ", " + s[1] + ", " + order + ") of " + size, x,
                         () -> x.sortPart(s[0], s[1], order), 0);
                 }
@@ -203,7 +203,7 @@ public final class SortingEdgesTest {
     private static void sortPartOfNoStretch() {
         for (int size : Rows.SIZES) {
             for (int[] s : Rows.noStretches(size)) {
-                RowPress x = Rows.mixed(size);
+                Press x = Rows.mixed(size);
                 due.nothing("sortPart(" + s[0] + ", " + s[1] + ", 0) of " + size, x,
                     () -> x.sortPart(s[0], s[1], 0), 0);
                 due.nothing("sortPart(" + s[0] + ", " + s[1] + ", 4) of " + size, x,
@@ -216,7 +216,7 @@ public final class SortingEdgesTest {
         for (int[] s : new int[][] {{0, 250, 500}, {0, 1, 500}, {0, 499, 500}, {0, 256, 500}, {1, 2, 3},
             {498, 499, 500}, {100, 101, 499}, {7, 300, 301}}) {
             for (int order = 0; order < 4; order++) {
-                RowPress x = Rows.mixed(500);
+                Press x = Rows.mixed(500);
                 x.sortPart(s[0], s[1], order);
                 x.sortPart(s[1], s[2], order);
                 String before = Rows.text(x, 0, s[0]);
@@ -231,7 +231,7 @@ public final class SortingEdgesTest {
     }
 
     private static void mergeOfShortest() {
-        RowPress x = Rows.of(9, 1, 2, 3, 0);
+        Press x = Rows.of(9, 1, 2, 3, 0);
         for (int[] s : new int[][] {{0, 0, 0}, {2, 2, 2}, {5, 5, 5}, {1, 1, 4}, {1, 4, 4}, {0, 0, 1}, {4, 5, 5},
             {1, 2, 3}}) {
             due.is("merge(" + s[0] + ", " + s[1] + ", " + s[2] + ", 0)", x.merge(s[0], s[1], s[2], 0), 1);
@@ -243,14 +243,14 @@ public final class SortingEdgesTest {
 
     private static void mergeWithoutFirst() {
         for (int size : Rows.SIZES) {
-            RowPress x = Rows.mixed(size);
+            Press x = Rows.mixed(size);
             x.sort(0);
             for (int[] s : Rows.noStretches(size)) {
                 due.nothing("merge(" + s[0] + ", " + s[1] + ", " + size + ", 0) of " + size, x,
                     () -> x.merge(s[0], s[1], size, 0), 0);
             }
         }
-        RowPress x = Rows.of(1, 2, 3, 4, 5);
+        Press x = Rows.of(1, 2, 3, 4, 5);
         due.nothing("merge(3, 2, 5, 0)", x, () -> x.merge(3, 2, 5, 0), 0);
         due.nothing("merge(-1, 2, 5, 0)", x, () -> x.merge(-1, 2, 5, 0), 0);
         due.nothing("merge(-1, 0, 0, 0)", x, () -> x.merge(-1, 0, 0, 0), 0);
@@ -258,14 +258,14 @@ public final class SortingEdgesTest {
 
     private static void mergeWithoutSecond() {
         for (int size : Rows.SIZES) {
-            RowPress x = Rows.mixed(size);
+            Press x = Rows.mixed(size);
             x.sort(0);
             for (int[] s : Rows.noStretches(size)) {
                 due.nothing("merge(0, " + s[0] + ", " + s[1] + ", 0) of " + size, x,
                     () -> x.merge(0, s[0], s[1], 0), 0);
             }
         }
-        RowPress x = Rows.of(1, 2, 3, 4, 5);
+        Press x = Rows.of(1, 2, 3, 4, 5);
         due.nothing("merge(0, 3, 2, 0)", x, () -> x.merge(0, 3, 2, 0), 0);
         due.nothing("merge(0, 3, 6, 0)", x, () -> x.merge(0, 3, 6, 0), 0);
         due.nothing("merge(5, 5, 6, 0)", x, () -> x.merge(5, 5, 6, 0), 0);
@@ -275,21 +275,21 @@ public final class SortingEdgesTest {
     private static void mergeFirstNotSorted() {
         // The fault is at the start, in the middle, at the end of the first.
         for (int[] keys : new int[][] {{2, 1, 3, 4, 0, 9}, {1, 3, 2, 4, 0, 9}, {1, 2, 4, 3, 0, 9}}) {
-            RowPress x = Rows.of(keys);
+            Press x = Rows.of(keys);
             due.nothing("merge(0, 4, 6, 0)", x, () -> x.merge(0, 4, 6, 0), 0);
             due.nothing("merge(0, 4, 4, 0)", x, () -> x.merge(0, 4, 4, 0), 0);
         }
-        RowPress beside = Rows.of(9, 1, 2, 3, 0);
+        Press beside = Rows.of(9, 1, 2, 3, 0);
         due.is("merge(1, 3, 4, 0), a fault only before it", beside.merge(1, 3, 4, 0), 1);
     }
 
     private static void mergeSecondNotSorted() {
         for (int[] keys : new int[][] {{0, 9, 2, 1, 3, 4}, {0, 9, 1, 3, 2, 4}, {0, 9, 1, 2, 4, 3}}) {
-            RowPress x = Rows.of(keys);
+            Press x = Rows.of(keys);
             due.nothing("merge(0, 2, 6, 0)", x, () -> x.merge(0, 2, 6, 0), 0);
             due.nothing("merge(2, 2, 6, 0)", x, () -> x.merge(2, 2, 6, 0), 0);
         }
-        RowPress between = Rows.of(5, 6, 1, 2, 0);
+        Press between = Rows.of(5, 6, 1, 2, 0);
         due.is("merge(0, 2, 4, 0), a fault only between and behind", between.merge(0, 2, 4, 0), 1);
         due.row("merge(0, 2, 4, 0)", between, "1:2 2:3 5:0 6:1 0:4");
     }
@@ -298,7 +298,7 @@ public final class SortingEdgesTest {
         int[][] sortedBy = {{-1, 0, 255, 256}, {255, 256, MIN, -1}, {256, 255, 0, -1}, {256, 0, -1, 255}};
         for (int sorted = 0; sorted < 4; sorted++) {
             for (int order = 0; order < 4; order++) {
-                RowPress x = Rows.of(sortedBy[sorted]);
+                Press x = Rows.of(sortedBy[sorted]);
                 if (order == sorted) {
                     due.is("merge(0, 4, 4, " + order + ")", x.merge(0, 4, 4, order), 1);
                     due.is("merge(0, 0, 4, " + order + ")", x.merge(0, 0, 4, order), 1);
@@ -313,12 +313,12 @@ public final class SortingEdgesTest {
 
     private static void mergeByNoOrder() {
         for (int order : Rows.NO_ORDERS) {
-            RowPress x = Rows.alike(5);
+            Press x = Rows.alike(5);
             for (int[] s : new int[][] {{0, 2, 5}, {0, 0, 0}, {5, 5, 5}, {0, 5, 5}, {1, 2, 3}}) {
                 due.nothing("merge(" + s[0] + ", " + s[1] + ", " + s[2] + ", " + order + ")", x,
                     () -> x.merge(s[0], s[1], s[2], order), 0);
             }
-            RowPress none = new RowPress();
+            Press none = new Press();
             due.nothing("merge(0, 0, 0, " + order + ") of none", none, () -> none.merge(0, 0, 0, order), 0);
         }
     }
